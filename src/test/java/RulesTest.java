@@ -129,6 +129,13 @@ public final class RulesTest {
         fails("need 1 1;swap 3 for 4;spare 2 x", 30);
         fails("need 1 1\u0000", 8);
         fails("\u00ff", 0);
+        fails("needz 1 1", 0);
+        fails("aneed 1 1", 0);
+        fails("need{1 1", 4);
+        fails("need`1 1", 4);
+        fails("need 1 1/", 8);
+        fails("need 1 1:", 8);
+        fails("need 1 1z", 8);
     }
 
     private static String times(int n) {
