@@ -185,6 +185,9 @@ public final class ParcelEdgesTest {
         b.did("gift", 0, 2, 6, 0).did("gift", 0, 2, 8, 0).did("gift", 0, 2, 5, 0).due(0, "parcel", 0);
         lines(b, 0, line(3, 2), line(1, 2), line(0, 2));
         b.due(2, "lot", 2, 4);
+        Bank c = referred("the earliest last day first, told between two others").rules("need 0 6");
+        c.did("gift", 0, 2, 7, 0).did("gift", 0, 2, 9, 0).did("gift", 0, 2, 8, 0).due(0, "parcel", 0);
+        lines(c, 0, line(0, 2), line(2, 2), line(1, 2));
     }
 
     private static void lowerLotThen() {

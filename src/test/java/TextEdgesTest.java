@@ -18,6 +18,7 @@ public final class TextEdgesTest {
         rulesEmptyTheTape();
         rulesOfBlanks();
         rulesThatAreRefusedStay();
+        nothingStaysOfOlderRules();
         faultOfTheLatest();
         textOfFourHundred();
         onlyBlanksAreBlanks();
@@ -128,6 +129,28 @@ public final class TextEdgesTest {
         }
     }
 
+    private static Bank hungry(String sentence) {
+        return bank(sentence).did("table").did("family", 0, 1, 0).did("refer", 0, 0, 9, 20).did("gift", 0, 5, 5, 0)
+            .did("gift", 1, 5, 5, 0);
+    }
+
+    /** Fewer RULES behind more, with others, none or refused ones between. */
+    private static void nothingStaysOfOlderRules() {
+        nothingStays(" ", 0);
+        nothingStays("need 3 1", 1);
+        nothingStays("need 3 1; x", -6);
+        nothingStays("need 3 1; need 3 1; x", -6);
+    }
+
+    private static void nothingStays(String between, int answer) {
+        hungry("of older \"need\" RULES nothing stays").rules("need 0 7; need 0 8").tape(between).due(answer, "rules")
+            .rules("need 0 2").due(2, "need", 0, 0);
+        hungry("of older \"spare\" RULES nothing stays").rules("need 0 7; spare 0 9").tape(between).due(answer, "rules")
+            .rules("need 0 2").due(0, "parcel", 0);
+        hungry("of older \"swap\" RULES nothing stays").rules("need 0 7; swap 1 for 0").tape(between)
+            .due(answer, "rules").rules("need 0 7").due(0, "parcel", 0).due(1, "of", 0, 2).due(2, "of", 0, 4);
+    }
+
     private static void faultOfTheLatest() {
         bank("FAULT of the latest rules()").due(-1, "fault").tape("x").due(-6, "rules").due(0, "fault").tape(" x")
             .due(0, "fault").due(-1, "end", 9).due(0, "fault").due(-6, "rules").due(1, "fault").due(1, "fault")
@@ -193,8 +216,11 @@ public final class TextEdgesTest {
         }
         fails("NEED 0 1", 0);
         fails("Need 0 1", 0);
-        fails("z", 0);
-        fails("a", 0);
+        fails("needz 0 1", 0);
+        fails("needa 0 1", 0);
+        fails("zneed 0 1", 0);
+        fails("aneed 0 1", 0);
+        fails("need 0 19a", 9);
     }
 
     private static void numbersToTheLast() {
