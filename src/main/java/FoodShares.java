@@ -1141,13 +1141,11 @@ public final class FoodShares {
             }
         }
 
-        // Of the cheapest partings, the set of the round that begins the first row.
+        // Of the cheapest partings, the set of the round that begins the first row. The cost tells rounds too, so all
+        // in one round never costs the same as a parting into more: it is the cheapest where none of these is.
         private int firstRound(int set) {
             int found = set;
             long first = BEHIND_ALL_ROUNDS;
-            if (costWithRest(set, 0) == leastCost[set]) {
-                first = roundAsNumber(set);
-            }
             int others = set & (set - 1);
             for (int rest = others; rest > 0; rest = (rest - 1) & others) {
                 if (costWithRest(set, rest) == leastCost[set]) {
